@@ -142,6 +142,13 @@ final class DaysTest {
         for (int person = 0; person < then.length; person++) {
             due.is("10 BELIEF of " + person, x.of(person, 2), then[person]);
         }
+        FogLots y = new FogLots();
+        Due.tell(y, "member on 0 believes 90;member on 0 believes 10;member on 0 believes 86;member on 0 believes 87");
+        y.go(1);
+        int[] thenToo = {90, 30, 87, 87};
+        for (int person = 0; person < thenToo.length; person++) {
+            due.is("10 BELIEF of " + person, y.of(person, 2), thenToo[person]);
+        }
     }
 
     private static void go() {
@@ -164,11 +171,22 @@ final class DaysTest {
         due.is("10 go(40) at 99960", y.go(40), Due.STATE);
         due.is("10 go(61) at 99960", y.go(61), Due.BEYOND);
         due.is("10 DAY 99960", y.now(0), 99960);
-        due.is("10 go(39) at 99960", y.go(39), 0);
+        due.is("10 go(38) at 99960", y.go(38), 0);
+        y.image();
+        due.is("10 go(1) at 99998", y.go(1), 0);
+        due.is("10 DAY 99999", y.now(0), 99999);
+        due.is("40 undo()", y.undo(), 99998);
+        due.is("26 fine(2) at 99998", y.fine(2), Due.STATE);
+        due.is("26 fine(1) at 99998", y.fine(1), 0);
+        due.is("10 go(1) at 99999", y.go(1), Due.STATE);
         due.is("26 fine(1) at 99999", y.fine(1), Due.STATE);
         due.is("26 fine(0) at 99999", y.fine(0), Due.BEYOND);
-        due.is("13 days go by still", y.fog(0, 100), 50);
-        due.is("10 z", y.count(6), 1);
+        due.is("43 status(4)", y.status(4), 4);
+        for (int lot = 0; lot < 10; lot++) {
+            y.lot(lot, 0, 50);
+        }
+        y.sun(3, 9);
+        due.is("13 days go by still, all of them the 99999th", y.fog(0, 4), 50 - 4 * 4);
     }
 
     private static void now() {
@@ -230,6 +248,40 @@ final class DaysTest {
         }
         y.mist(4);
         due.is("14 falls behind 40 days", y.falls(0), 40);
+        horizon();
+    }
+
+    /** 99 of fog bear a doubter until the day of the one sun of 40. */
+    private static void horizon() {
+        FogLots x = new FogLots();
+        Due.tell(x, "doubter on 0;member;doubter;sun 0 0;sun 1 0;sun 2 0;sun 3 40;sun 4 0;sun 5 0;mist 0");
+        for (int days = 0; days < 4; days++) {
+            x.change(0, 1, 0);
+            for (int lot = 0; lot < 10; lot++) {
+                x.lot(lot, 0, 99);
+            }
+            due.is("14 falls on the 4th day", x.falls(0), 4 - days);
+            due.is("15 nobody then but the member", x.bare(), Due.NONE);
+            x.go(1);
+        }
+        lastDay(0, 100, 100);
+        lastDay(1, 101, Due.NONE);
+    }
+
+    /** Only every sixth day has a sun, of 1: so little happens that the fall is a hundred days off. */
+    private static void lastDay(int more, int days, long want) {
+        FogLots x = new FogLots();
+        Due.tell(x, "person on 0 believes 98;sun 0 0;sun 1 0;sun 2 0;sun 3 1;sun 4 0;sun 5 0;mist 0");
+        // Suns of 1 on the days 4, 10, .. 100: the 17th of them is the one that counts.
+        for (int lot = 0; lot < 10; lot++) {
+            x.lot(lot, 0, 11 + 16);
+        }
+        x.go(6 - more);
+        for (int lot = 0; lot < 10; lot++) {
+            x.lot(lot, 0, 11 + 16);
+        }
+        due.is("14 falls behind " + days, x.falls(0), want);
+        due.is("15 bare behind " + days, x.bare(), want);
     }
 
     private static void bare() {
@@ -259,5 +311,16 @@ final class DaysTest {
         due.same("16 meet", before, Due.seen(x));
         x.change(0, 1, 4);
         due.is("16 meet(2, 0), now", x.meet(2, 0), 0);
+        // The doubter comes to the member's lot when the fog there is 60.
+        for (int behind = 99; behind <= 101; behind++) {
+            FogLots y = new FogLots();
+            Due.tell(y, "member on 0;doubter;mist 1;sun 0 1;sun 1 1;sun 2 1;sun 3 1;sun 4 1;sun 5 0");
+            for (int lot = 0; lot < 10; lot++) {
+                y.lot(lot, 0, 60 - 17);
+            }
+            // 1 more on the days 6, 12, .. 102.
+            y.go(102 - behind);
+            due.is("16 meet(0, 1) behind " + behind, y.meet(0, 1), behind <= 100 ? behind : Due.NONE);
+        }
     }
 }

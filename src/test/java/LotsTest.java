@@ -182,7 +182,8 @@ final class LotsTest {
         due.is("8 change(0, 3, 0)", x.change(0, 3, 0), 9999);
         due.is("8 change(0, 4, 9999)", x.change(0, 4, 9999), 0);
         due.is("8 change(0, 4, 1)", x.change(0, 4, 1), 9999);
-        due.is("8 of(0, 4)", x.of(0, 4), 1);
+        due.is("8 change(0, 4, 0)", x.change(0, 4, 0), 1);
+        due.is("8 of(0, 4)", x.of(0, 4), 0);
         String before = Due.seen(x);
         int[][] wrong = {{-1, 0, 0}, {1, 0, 0}, {8, 0, 0}, {0, -1, 0}, {0, 5, 0}, {0, 0, -1}, {0, 0, 7},
             {0, 1, -2}, {0, 1, 10}, {0, 2, -1}, {0, 2, 100}, {0, 3, -1}, {0, 3, 10000}, {0, 4, -1},
@@ -211,6 +212,8 @@ final class LotsTest {
         }
         x.change(2, 2, 19);
         due.is("9 a surveyor of little belief", x.trust(2, 0), 0);
+        x.change(2, 2, 22);
+        due.is("9 a surveyor of a little more", x.trust(2, 0), 1);
         x.change(3, 2, 19);
         due.is("9 a mayor of little belief at home", x.trust(3, 2), 30);
         due.is("9 trust(-1, 0)", x.trust(-1, 0), Due.BEYOND);

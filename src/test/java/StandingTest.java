@@ -88,6 +88,13 @@ final class StandingTest {
         due.is("21 sunFor(1), a doubter", x.sunFor(1), Due.NONE);
         x.change(1, 4, 9999);
         due.is("21 sunFor(1), FELL stays", x.sunFor(1), 20);
+        x.mist(0);
+        for (int lot = 0; lot < 10; lot++) {
+            x.lot(lot, 0, 35);
+        }
+        due.is("21 sunFor(1), none at all", x.sunFor(1), 0);
+        x.lot(0, 0, 34);
+        due.is("21 sunFor(1), not even that", x.sunFor(1), Due.NONE);
     }
 
     private static void away() {
@@ -115,6 +122,30 @@ final class StandingTest {
         due.is("22 away(0, 2), either", y.away(0, 2), 0b0010);
         y.change(0, 1, -1);
         due.is("22 away(0, 0), in a boat", y.away(0, 0), Due.NONE);
+        fewestBeforeLeast();
+    }
+
+    private static void fewestBeforeLeast() {
+        // All others must go: the pupil is the last one here.
+        FogLots x = new FogLots();
+        Due.tell(x, "member on 0 believes 0;member on 0 believes 0;pupil on 0 believes 0;sun 1 8");
+        for (int lot = 0; lot < 10; lot++) {
+            x.lot(lot, 0, lot < 7 ? 38 : 99);
+        }
+        due.is("22 away(2, 2), all others", x.away(2, 2), 0b011);
+        for (int lot = 0; lot < 7; lot++) {
+            x.lot(lot, 0, 36);
+        }
+        due.is("22 away(2, 2), either", x.away(2, 2), 0b001);
+        // Person 2 holds the pupil by what it believes, 0 and 1 by being there: with 2 away, or
+        // with both of these, it falls on the 2nd day and is back on the 3rd.
+        FogLots y = new FogLots();
+        Due.tell(y, "member on 0 believes 0;member on 0 believes 0;member on 0 believes 99;"
+            + "pupil on 0 believes 0;sun 0 5;sun 1 30;sun 2 18");
+        for (int lot = 0; lot < 10; lot++) {
+            y.lot(lot, 0, lot < 7 ? 50 : 99);
+        }
+        due.is("22 away(3, 3), the fewest", y.away(3, 3), 0b0100);
     }
 
     private static void wrong() {

@@ -143,6 +143,11 @@ final class TextsTest {
         fault("person on -1", 10);
         fault("person;cow", 7);
         fault("persons", 0);
+        fault("berson", 0);
+        fault("xist 4", 0);
+        fault("mistz 4", 0);
+        fault("mista 4", 0);
+        fault(";mist 4", 0);
         fault("perso", 0);
         fault("mist 4" + (char) 200, 6);
         fault("mist 4" + (char) 0, 6);

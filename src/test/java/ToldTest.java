@@ -36,6 +36,15 @@ final class ToldTest {
         due.is("23 fits, falls on the 2nd day", x.fits(0, 0), 20);
         due.is("24 believed, falls on the 2nd day", x.believed(0, 0), 20);
         due.same("23, 24", before, Due.seen(x));
+        // A mayor of 99 has 94 behind a fall and 37 of trust, one of 98 has 36.
+        FogLots y = new FogLots();
+        Due.tell(y, "mayor on 0;mist 9;sun 0 9;sun 1 6");
+        for (int lot = 0; lot < 10; lot++) {
+            y.lot(lot, 0, 20);
+        }
+        Due.put(y, 0, 8, 0, -1, 0);
+        due.is("23 fits, 99 alone", y.fits(0, 0), 1);
+        due.is("24 believed, 99 alone", y.believed(0, 0), 99);
     }
 
     private static void kinds() {
@@ -144,6 +153,8 @@ final class ToldTest {
         }
         due.is("27 odds 7/10, above", x.odds(0, 18, 0), 1628413597910449L);
         due.is("27 odds 7/10, below", x.odds(0, 18, 1), 1000000000000000000L);
+        due.is("27 odds 7/10, above", x.odds(0, 3, 0), 343);
+        due.is("27 odds 7/10, below", x.odds(0, 3, 1), 1000);
         x.lot(3, 0, 0);
         due.is("27 odds 3/5, above", x.odds(0, 2, 0), 9);
         due.is("27 odds 3/5, below", x.odds(0, 2, 1), 25);
