@@ -3,7 +3,8 @@ final class LotsTest {
     private static final Due due = new Due();
 
     public static void main(String[] args) {
-        newObject();
+        newObject(new FogLots());
+        besideAnother();
         lot();
         lotOf();
         sunAndMist();
@@ -15,8 +16,33 @@ final class LotsTest {
         due.end();
     }
 
-    private static void newObject() {
+    /** What is done to one object is nothing to another one, made before or behind it. */
+    private static void besideAnother() {
+        FogLots before = new FogLots();
         FogLots x = new FogLots();
+        for (int i = 0; i < 8; i++) {
+            x.person(i % 7);
+            x.change(i, 1, i);
+            x.hold(i, i);
+        }
+        for (int lot = 0; lot < 10; lot++) {
+            x.lot(lot, 0, 90);
+            x.lot(lot, 1, 9);
+            x.lot(lot, 2, 7);
+        }
+        x.sun(3, 33);
+        x.mist(33);
+        Due.put(x, 0, 8, 1, 2, 3);
+        x.fine(3);
+        x.image();
+        x.undo();
+        x.person(0);
+        x.feed(0, 4);
+        newObject(before);
+        newObject(new FogLots());
+    }
+
+    private static void newObject(FogLots x) {
         for (int lot = 0; lot < 10; lot++) {
             due.is("1 lotOf(" + lot + ", 0)", x.lotOf(lot, 0), 50);
             due.is("1 lotOf(" + lot + ", 1)", x.lotOf(lot, 1), 0);
